@@ -269,8 +269,14 @@ public final class PromiseTest {
         due("another body takes its place", method(x, 0, 1, NUM, 2), 2);
         due("generic(2, 3), not called any more", x.generic(2, 3), MultiDispatch.OK);
         due("a body that calls 2 again", method(x, 0, 1, CALL, 2, NUM, 1, NUM, 2, NUM, 3), 2);
+        due("generic(2, 1), called by the first token", x.generic(2, 1), MultiDispatch.SEALED);
         due("remove(2)", x.remove(2), true);
         due("generic(2, 1)", x.generic(2, 1), MultiDispatch.OK);
+        due("a body that calls 2 at its second token", method(x, 0, 1, GET, 0, CALL, 2, NUM, 1), 2);
+        due("generic(2, 1), called", x.generic(2, 1), MultiDispatch.SEALED);
+        due("a shorter body takes its place", method(x, 0, 1, NUM, 2), 2);
+        due("generic(2, 2)", x.generic(2, 2), MultiDispatch.OK);
+        due("remove(2)", x.remove(2), true);
         due("remove(0)", x.remove(0), true);
         due("generic(1, 1)", x.generic(1, 1), MultiDispatch.OK);
         due("NUM with the generic's number is no call", method(x, 0, 1, NUM, 3), 0);
@@ -610,8 +616,21 @@ public final class PromiseTest {
         due("method", x.method(2), 3);
         method(x, 1, 0, CALL, 2, ADD, 0, NUM, 50, NUM, 50, ARG, 0, NUM, 3);
         dueCall(x, 1, 10, MultiDispatch.OK, 100 - (10 - 3), 6 + 5);
+        method(x, 1, 1, SEQ, 0, CALL, 2, NUM, 1, NUM, 2, NUM, 3, NEXT, 0);
+        dueCall("NEXT behind another generic's call", x.call(1, 10, 0, 0), x, MultiDispatch.OK, 93, 6 + 5 + 6 + 5);
+        due("remove", x.remove(x.order(1, 10, 0, 0, 0)), true);
         method(x, 1, 0, CALL, 1, CALL, 1, ARG, 0);
         dueCall("an argument's call ends before", x.call(1, 1, 0, 0), x, MultiDispatch.DEEP, NOTHING, 24);
+    }
+
+    private static void faultsLeaveNothingBehind() {
+        MultiDispatch x = new MultiDispatch();
+        method(x, 0, 0, ADD, 0, NUM, 1, ADD, 0, NUM, 1, ADD, 0, NUM, 1, GET, 0, ARG, 0);
+        method(x, 1, 0, ADD, 0, NUM, 1, ADD, 0, NUM, 1, ADD, 0, NUM, 1, ARG, 0);
+        for (int n = 0; n < 50; n++) {
+            dueCall(x, 0, n, MultiDispatch.NO_SLOT, NOTHING, 8);
+            dueCall(x, 1, n, MultiDispatch.OK, n + 3, 7);
+        }
     }
 
     private static void result() {
@@ -812,7 +831,8 @@ public final class PromiseTest {
             {PromiseTest::token}, {PromiseTest::method}, {PromiseTest::remove}, {PromiseTest::make},
             {PromiseTest::clear, PromiseTest::clearTakesStaleSpecialisersForNothing},
             {PromiseTest::call, PromiseTest::expressions, PromiseTest::slotsAndObjectsInBodies,
-                PromiseTest::nextAndDepth, PromiseTest::nextKeepsArgumentsAndPlace},
+                PromiseTest::nextAndDepth, PromiseTest::nextKeepsArgumentsAndPlace,
+                PromiseTest::faultsLeaveNothingBehind},
             {PromiseTest::result}, {PromiseTest::steps}, {PromiseTest::order, PromiseTest::orderOfAll},
             {PromiseTest::get}, {PromiseTest::classOf}, {PromiseTest::orderAndLimits}};
         for (Runnable[] groups : promises) {
