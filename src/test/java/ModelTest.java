@@ -5,7 +5,8 @@ import java.util.Random;
 /** Made-up runs of calls, each answer compared with that of a plain model that follows the document's terms. */
 public final class ModelTest {
     private static final int RUNS = 6000;
-    private static final int CALLS = 512;
+    // An object is used for at most 512 calls; drafting a method takes fewer than 32, and is not begun without them.
+    private static final int CALLS = 512 - 32;
     private static final long NOTHING = Long.MIN_VALUE;
     private static final long OBJECT = 1L << 32;
 
