@@ -21,7 +21,7 @@ public final class MultiDispatch {
     // What a running call does next; below 0, since from 0 on the state is the call's answer.
     private static final int ENTER = -1, WORK = -2, TAKE = -3;
     // Each token is worked once, taken once and enters at most one method that is left once: far below this.
-    private static final int MOST_TURNS = 1000;
+    private static final int MOST_TURNS = 1000000;
 
     // The method draft is kept as one more method, so that what reads a body reads the draft too.
     private static final int DRAFT = METHODS;

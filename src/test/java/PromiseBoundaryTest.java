@@ -11,7 +11,7 @@ public final class PromiseBoundaryTest {
     private static final int LEAST = Bench.LEAST, GREATEST = Bench.GREATEST;
 
     private static void newObject(Sentences s) {
-        s.at("Promise 1:");
+        s.at("Promise 1");
         s.test("Classes 0 and 1 without slots", b -> {
             b.line(0, 0);
             b.line(1, 1, 0);
@@ -71,7 +71,7 @@ public final class PromiseBoundaryTest {
     }
 
     private static void under(Sentences s) {
-        s.at("Promise 2:");
+        s.at("Promise 2");
         s.test("False if there is no such class", b -> {
             b.fillClasses(4);
             for (int c : new int[] {-1, 4, 15, 16, LEAST, GREATEST}) {
@@ -105,7 +105,7 @@ public final class PromiseBoundaryTest {
     }
 
     private static void slot(Sentences s) {
-        s.at("Promise 3:");
+        s.at("Promise 3");
         s.test("False if the slot is outside 0..3", b -> {
             for (int n : new int[] {-1, 4, LEAST, GREATEST, -4}) {
                 b.no("slot(" + n + ")", b.x.slot(n, 7));
@@ -137,7 +137,7 @@ public final class PromiseBoundaryTest {
     }
 
     private static void define(Sentences s) {
-        s.at("Promise 4:");
+        s.at("Promise 4");
         s.test("(0 if there are none)", b -> {
             b.slots(1, 4);
             b.due("define", b.x.define(), 2);
@@ -198,10 +198,23 @@ public final class PromiseBoundaryTest {
             b.due("line(3, 0)", b.x.line(3, 0), -1);
             b.due("below 2 and 0", b.define(2, 0), 3);
         });
+        s.test("BROKEN if there is no MERGE", "the class that comes then has nothing of it", b -> {
+            b.fillClasses(4);
+            b.due("below 2 and 3", b.define(2, 3), 4);
+            b.due("below 3 and 2", b.define(3, 2), 5);
+            b.due("below 4 and 5", b.define(4, 5), BROKEN);
+            b.due("below 0", b.define(), 6);
+            b.line(6, 6, 0);
+            b.fillObjects(6, 1);
+            for (int c = 1; c < 6; c++) {
+                b.method(0, "0", "IS " + c + " ARG 0");
+                b.value(0, 2, 0, OBJECT);
+            }
+        });
     }
 
     private static void sealAndLine(Sentences s) {
-        s.at("Promise 5:");
+        s.at("Promise 5");
         s.test("Class c gets no more direct subclasses.", b -> {
             b.chain(0, 3);
             b.yes("seal(2)", b.x.seal(2));
@@ -226,7 +239,7 @@ public final class PromiseBoundaryTest {
                 b.no("seal(" + c + ") again", b.x.seal(c));
             }
         });
-        s.at("Promise 6:");
+        s.at("Promise 6");
         s.test("-1 if there is none", "no such place", b -> {
             b.chain(1, 4);
             b.due("the last place", b.x.line(4, 4), 0);
@@ -251,7 +264,7 @@ public final class PromiseBoundaryTest {
     }
 
     private static void generic(Sentences s) {
-        s.at("Promise 7:");
+        s.at("Promise 7");
         s.test("Generic g has n parameters from now on, and no methods.", b -> {
             b.due("3", b.x.generic(2, 3), OK);
             b.due("of three", b.method(2, "0 0 0", "ARG 2"), 0);
@@ -301,7 +314,7 @@ public final class PromiseBoundaryTest {
             b.due("generic(1, 2)", b.x.generic(1, 2), SEALED);
         });
         s.test("SEALED if some method's body calls g", "not a draft, and not a body that is gone", b -> {
-            b.tokens("CALL 1 NUM 1");
+            b.tokens("IS 0 CALL 1 NUM 1");
             b.due("a draft", b.x.generic(1, 1), OK);
             b.specials("0");
             b.due("method", b.x.method(0), 0);
@@ -328,7 +341,7 @@ public final class PromiseBoundaryTest {
     }
 
     private static void special(Sentences s) {
-        s.at("Promise 8:");
+        s.at("Promise 8");
         s.test("False if there is no such class", b -> {
             b.fillClasses(4);
             for (long c : new long[] {-1, 4, 16, OBJECT, OBJECT + 1, -OBJECT, Long.MIN_VALUE, Long.MAX_VALUE}) {
@@ -380,7 +393,7 @@ public final class PromiseBoundaryTest {
     }
 
     private static void token(Sentences s) {
-        s.at("Promise 9:");
+        s.at("Promise 9");
         s.test("False if kind is outside 0..12", b -> {
             for (int kind : new int[] {-1, 13, LEAST, GREATEST}) {
                 b.no("token(" + kind + ", 0)", b.x.token(kind, 0));
@@ -434,7 +447,7 @@ public final class PromiseBoundaryTest {
     }
 
     private static void method(Sentences s) {
-        s.at("Promise 10:");
+        s.at("Promise 10");
         s.test("which are empty then (but for BAD) whatever the answer", "a number", b -> {
             b.x.generic(0, 3);
             b.due("sixteen tokens, three specialisers", b.method(0, "0 0 0", "IS 0 ".repeat(15) + "NUM 1"), 0);
@@ -536,7 +549,7 @@ public final class PromiseBoundaryTest {
     }
 
     private static void removeAndMake(Sentences s) {
-        s.at("Promise 11:");
+        s.at("Promise 11");
         s.test("Takes method m away", b -> {
             b.method(0, "0", "NUM 1");
             b.method(0, "1", "NEXT");
@@ -559,7 +572,7 @@ public final class PromiseBoundaryTest {
                 b.no("remove(" + m + ") again", b.x.remove(m));
             }
         });
-        s.at("Promise 12:");
+        s.at("Promise 12");
         s.test("Makes an object of class c: its number.", b -> {
             b.fillClasses(16);
             b.due("of 0", b.x.make(0), 0);
@@ -588,7 +601,7 @@ public final class PromiseBoundaryTest {
     }
 
     private static void clear(Sentences s) {
-        s.at("Promise 13:");
+        s.at("Promise 13");
         s.test("Takes all objects away", b -> {
             b.slots(0, 5);
             b.due("2", b.define(), 2);
@@ -677,7 +690,7 @@ public final class PromiseBoundaryTest {
     }
 
     private static void call(Sentences s) {
-        s.at("Promise 14:");
+        s.at("Promise 14");
         s.test("Calls generic g with as many of these arguments as it has parameters.", b -> {
             for (int n = 1; n <= 3; n++) {
                 b.x.generic(n, n);
@@ -764,7 +777,7 @@ public final class PromiseBoundaryTest {
     }
 
     private static void resultAndSteps(Sentences s) {
-        s.at("Promise 15:");
+        s.at("Promise 15");
         s.test("The value that the latest call gave that was not BAD", b -> {
             b.fillObjects(0, 20);
             b.method(0, "0", "ARG 0");
@@ -773,6 +786,8 @@ public final class PromiseBoundaryTest {
                 b.due("result", b.x.result(), v);
                 b.due("BAD", b.call(0, OBJECT + 20), BAD);
                 b.due("result after BAD", b.x.result(), v);
+                b.due("order", b.x.order(0, v, 0, 0, 0), 0);
+                b.due("result after order", b.x.result(), v);
             }
         });
         s.test("-9223372036854775808 if it was a fault", b -> {
@@ -795,7 +810,7 @@ public final class PromiseBoundaryTest {
             b.due("order", b.x.order(0, 1, 0, 0, 0), 0);
             b.due("result after order", b.x.result(), NOTHING);
         });
-        s.at("Promise 16:");
+        s.at("Promise 16");
         s.test("How many STEPS it took", b -> {
             b.due("before any call", b.x.steps(), 0);
             b.method(0, "0", "ADD ADD NUM 1 NUM 2 NUM 3");
@@ -823,7 +838,7 @@ public final class PromiseBoundaryTest {
     }
 
     private static void order(Sentences s) {
-        s.at("Promise 17:");
+        s.at("Promise 17");
         s.test("BROKEN where and behind where it is broken", b -> {
             b.x.generic(0, 2);
             b.method(0, "1 0", "NUM 0");
@@ -885,7 +900,7 @@ public final class PromiseBoundaryTest {
     }
 
     private static void getAndClassOf(Sentences s) {
-        s.at("Promise 18:");
+        s.at("Promise 18");
         s.test("-9223372036854775808 if there is none", "no such object", b -> {
             b.slots(0, 5, 1, 6, 2, 7, 3, 8);
             b.due("2", b.define(), 2);
@@ -921,7 +936,7 @@ public final class PromiseBoundaryTest {
             b.due("its last slot", b.x.get(19, 3), 5);
             b.due("one behind it", b.x.get(20, 3), NOTHING);
         });
-        s.at("Promise 19:");
+        s.at("Promise 19");
         s.test("-1 if there is none", b -> {
             for (long v : noValues(0)) {
                 b.due("classOf(" + v + ")", b.x.classOf(v), -1);
@@ -944,7 +959,7 @@ public final class PromiseBoundaryTest {
     }
 
     private static void orderAndLimits(Sentences s) {
-        s.at("Promise 20:");
+        s.at("Promise 20");
         s.test("define: FULL is tested first", b -> {
             b.fillClasses(16);
             b.yes("seal(2)", b.x.seal(2));
@@ -980,6 +995,16 @@ public final class PromiseBoundaryTest {
             b.x.make(2);
             b.due("no slot 0", b.x.get(0, 0), NOTHING);
             b.due("no slot 3", b.x.get(0, 3), NOTHING);
+        });
+        s.test("with SEALED and BROKEN the drafts are empty then", "the slots of classes stay", b -> {
+            b.slots(0, 5, 3, 6);
+            b.due("2", b.define(), 2);
+            b.due("BROKEN", b.define(0, 2), BROKEN);
+            b.yes("seal(2)", b.x.seal(2));
+            b.due("SEALED", b.define(2), SEALED);
+            b.x.make(2);
+            b.due("slot 0", b.x.get(0, 0), 5);
+            b.due("slot 3", b.x.get(0, 3), 6);
         });
         s.test("method: BAD is tested first", b -> {
             b.fillMethods(0, 24);

@@ -322,6 +322,25 @@ public final class TermsBoundaryTest {
             b.due("m3, nearer at the second, farther at the last", b.method(0, "1 1 0", "NUM 3"), 3);
             b.order(Bench.places(BROKEN), 0, 5, 5, 5);
         });
+        s.test("if for every argument its specialiser is nearer or the same, and not the same for all", "no argument more", b -> {
+            b.x.generic(0, 3);
+            b.due("m0", b.method(0, "0 0 0", "NUM 0"), 0);
+            b.due("m1", b.method(0, "=5 0 0", "NUM 1"), 1);
+            b.due("m2", b.method(0, "1 0 0", "NUM 2"), 2);
+            b.order(Bench.places(1, 2, 0, -1), 0, 5, 5, 5);
+        });
+        s.test("if for every argument its specialiser is nearer or the same, and not the same for all",
+                "numbers that methods with more parameters had", b -> {
+            b.x.generic(0, 3);
+            b.due("m0", b.method(0, "0 1 1", "NUM 0"), 0);
+            b.due("m1", b.method(0, "1 0 0", "NUM 1"), 1);
+            b.order(Bench.places(BROKEN), 0, 5, 5, 5);
+            b.x.remove(0);
+            b.x.remove(1);
+            b.due("m0", b.method(1, "0", "NUM 0"), 0);
+            b.due("m1", b.method(1, "1", "NUM 1"), 1);
+            b.order(Bench.places(1, 0, -1), 1, 5);
+        });
         s.test("the method that precedes all other applicable ones, then that which precedes all others that are left",
                 b -> {
             b.x.generic(0, 2);
@@ -504,6 +523,12 @@ public final class TermsBoundaryTest {
             b.method(0, "=5", "ADD CALL 0 NUM 6 ADD NEXT NUM 100");
             b.value(11, 4, 0, 6);
             b.value(11 + 11 + 100, 6 + 4 + 4, 0, 5);
+        });
+        s.test("A call of a generic", "a CALL behind a NEXT begins at the first method again", b -> {
+            b.method(0, "0", "NUM 1");
+            b.method(0, "1", "ADD NEXT NUM 10");
+            b.method(0, "=5", "ADD NEXT CALL 0 NUM 6");
+            b.value(11 + 11, 4 + 4 + 4, 0, 5);
         });
         s.test("and the same arguments", b -> {
             b.x.generic(0, 2);

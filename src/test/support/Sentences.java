@@ -33,7 +33,7 @@ final class Sentences {
     /** The section of the document that the next tests quote. */
     void at(String heading) {
         section = heading;
-        int from = document.indexOf("## " + heading);
+        int from = (document + " ").replace(':', ' ').indexOf("## " + heading + " ");
         int to = document.indexOf(" ## ", from + 1);
         sectionText = from < 0 ? "" : document.substring(from, to < 0 ? document.length() : to);
         if (from < 0 && !document.isEmpty()) {
