@@ -9,6 +9,7 @@ import java.util.HashSet;
 import java.util.LinkedHashMap;
 import java.util.List;
 import java.util.Map;
+import java.util.Random;
 import java.util.Set;
 import java.util.TreeSet;
 import java.util.regex.Matcher;
@@ -166,11 +167,80 @@ public final class RulesTest {
         rule(depth <= 6, "calls go at most six deep and there is no recursion, not " + depth);
     }
 
+    private static void loops(String source) {
+        for (String text : source.split("\n")) {
+            rule(!text.matches(".*\\b(while|do)\\b.*"), "loops count: " + text.trim());
+            rule(!text.matches(".*\\bfor\\b.*") || text.matches(".*for \\([^;]*; \\w+ <=? [^;]+; \\w+\\+\\+\\) \\{"),
+                    "a counter goes up to a bound: " + text.trim());
+        }
+    }
+
+    /** A number of any size, often one at an edge. */
+    private static long wild(Random random) {
+        long[] edges = {0, 1, 1L << 31, 1L << 32, 1L << 33, Long.MIN_VALUE, Long.MAX_VALUE};
+        return switch (random.nextInt(4)) {
+            case 0 -> edges[random.nextInt(edges.length)] + random.nextInt(5) - 2;
+            case 1 -> random.nextLong();
+            case 2 -> (1L << 32) + random.nextInt(24);
+            default -> random.nextInt(26) - 1;
+        };
+    }
+
+    private static long ask(MultiDispatch x, int which, long a, long b) {
+        int m = (int) a;
+        int n = (int) b;
+        return switch (which) {
+            case 0 -> x.under(m) ? 1 : 0;
+            case 1 -> x.slot(m, n) ? 1 : 0;
+            case 2 -> x.define();
+            case 3 -> x.seal(m) ? 1 : 0;
+            case 4 -> x.line(m, n);
+            case 5 -> x.generic(m, n);
+            case 6 -> x.special(n % 2 == 0, a) ? 1 : 0;
+            case 7 -> x.method(m);
+            case 8 -> x.remove(m) ? 1 : 0;
+            case 9 -> x.make(m);
+            case 10 -> n % 16 == 0 ? x.clear() : x.make(m);
+            case 11 -> x.order(m, b, a, b, n);
+            case 12 -> x.get(m, n);
+            case 13 -> x.classOf(a);
+            case 14 -> x.call(m, b, a, b);
+            case 15 -> x.result();
+            case 16 -> x.steps();
+            default -> x.token(m, n) ? 1 : 0;
+        };
+    }
+
+    /** Rules 7 and 11: whatever is asked, also behind the 512th call, nothing throws and equals get equal answers. */
+    private static void wildCalls() {
+        for (int seed = 1; seed <= 60; seed++) {
+            Random random = new Random(seed);
+            MultiDispatch x = new MultiDispatch();
+            MultiDispatch same = new MultiDispatch();
+            for (int i = 0; i < 20000; i++) {
+                int which = random.nextInt(24);
+                long a = wild(random);
+                long b = wild(random);
+                try {
+                    if (ask(x, which, a, b) != ask(same, which, a, b)) {
+                        rule(false, "the same calls give the same answers");
+                        return;
+                    }
+                } catch (RuntimeException | StackOverflowError e) {
+                    rule(false, "no call throws, but number " + which + " with " + a + ", " + b + ": " + e);
+                    return;
+                }
+            }
+        }
+    }
+
     public static void main(String[] args) throws Exception {
         face();
         String source = withoutComments(Files.readString(Path.of(System.getProperty("source"))));
         words(source);
+        loops(source);
         callGraph(source);
+        wildCalls();
         System.out.println(wrong == 0 ? "the rules hold" : wrong + " rules are broken");
         System.exit(wrong == 0 ? 0 : 1);
     }
